@@ -1,0 +1,337 @@
+import java.math.BigInteger;
+import java.util.ArrayList;
+import java.util.Arrays;
+import java.util.List;
+import java.util.Random;
+
+/** Promises 1, 6 to 9, 21, 24, 27 to 29: what an object is, and what is done to it by hand. */
+public final class StateTest {
+    private static final Due DUE = new Due();
+    /** A fixed seed: each run asks the same. */
+    private static final Random RANDOM = new Random(20261120);
+    private static final String TEXT = "size 8 1;let a 3;let b a/7;let c a-b/0;let d 100*b;";
+
+    public static void main(String[] args) {
+        newObject();
+        resizing();
+        storing();
+        nilStore();
+        greatStore();
+        undoing();
+        slots();
+        wrongInputs();
+        for (int i = 0; i < 300; i++) {
+            new Run().go();
+        }
+        DUE.end();
+    }
+
+    private static void counts(String call, TaperedNumbers x, int... want) {
+        for (int i = 0; i < want.length; i++) {
+            DUE.same(call + ": count(" + i + ")", x.count(i), want[i]);
+        }
+    }
+
+    private static void newObject() {
+        TaperedNumbers x = new TaperedNumbers();
+        DUE.same("NONE", TaperedNumbers.NONE, -1);
+        counts("new", x, 8, 1, 0, 0, 0, 0, 0, 0, 0, -1000, 0, -1);
+        DUE.same("let of a new object", x.let(0, 0), -100000);
+        DUE.same("place of a new object", x.place(), -1);
+        DUE.no("undo of a new object", x.undo());
+        DUE.no("clear of a new object", x.clear());
+        for (int slot = -1; slot <= 3; slot++) {
+            DUE.no("restore of a new object", x.restore(slot));
+        }
+    }
+
+    private static void resizing() {
+        TaperedNumbers x = new TaperedNumbers();
+        DUE.no("both are so", x.resize(8, 1));
+        DUE.yes("resize without NAMES", x.resize(8, 2));
+        DUE.yes("resize without NAMES", x.resize(12, 2));
+        counts("resized", x, 12, 2, 0, 0, 0, 0, 0, 2, 0, -1000, 0);
+        DUE.yes("undo", x.undo());
+        DUE.yes("undo", x.undo());
+        counts("undone", x, 8, 1, 0, 0, 0, 0, 0, 0, 0, -1000, 0);
+        Due.read(x, TEXT);
+        int b = x.let(1, 0);
+        DUE.yes("store", x.store(b, b, false));
+        DUE.yes("resize", x.resize(4, 0));
+        DUE.same("b is worked out anew", x.let(1, 0), x.both(4, 0, x.quotient(4, 0, 3, 1), x.quotient(4, 0, 7, 1), 3));
+        DUE.same("the STORE stays", x.stored(12, 1), x.turned(12, 1, x.stored(12, 1), 12, 1));
+        DUE.same("the STORE stays", x.stored(8, 1), x.both(8, 1, b, b, 2));
+        DUE.same("a ROW of the new size", x.store(16, 4, false), false);
+        DUE.yes("a ROW of the new size", x.store(15, 4, false));
+        DUE.yes("undo of store", x.undo());
+        DUE.yes("undo of resize", x.undo());
+        DUE.same("b is as it was", x.let(1, 0), b);
+        DUE.same("SIZE is as it was", x.count(0), 8);
+    }
+
+    private static void storing() {
+        TaperedNumbers x = new TaperedNumbers();
+        DUE.yes("0 times 0", x.store(0, 0, false));
+        DUE.same("is done all the same", x.count(7), 1);
+        DUE.no("the STORE is 0", x.clear());
+        DUE.yes("1.5 times 1.5", x.store(72, 72, false));
+        counts("2.25", x, 8, 1, 0, 1, 0, 0, 0, 2, 0, 1, 2);
+        DUE.same("bit 1", x.bit(1), 1);
+        DUE.same("bit 0", x.bit(0), 0);
+        DUE.same("bit -2", x.bit(-2), 1);
+        DUE.yes("less 4 times 1", x.store(96, 64, true));
+        counts("-1.75", x, 8, 1, 0, -1, 0, 0, 0, 3, 0, 0, -2);
+        DUE.same("bits without sign", x.bit(0) * 100 + x.bit(-1) * 10 + x.bit(-2), 111);
+        DUE.same("stored", x.stored(8, 1), 256 - 64 - 12);
+        DUE.yes("back to 0", x.store(256 - 76, 64, true));
+        counts("0", x, 8, 1, 0, 0, 0, 0, 0, 4, 0, -1000, 0);
+        DUE.no("the STORE is 0", x.clear());
+        DUE.yes("undo", x.undo());
+        DUE.yes("clear", x.clear());
+        DUE.same("0", x.stored(8, 1), 0);
+        DUE.yes("undo of clear", x.undo());
+        DUE.same("-1.75", x.stored(8, 1), 256 - 64 - 12);
+        DUE.same("WHOLE of a half", halves(1), 0);
+        DUE.same("WHOLE of one and a half", halves(3), 2);
+        DUE.same("WHOLE of two and a half", halves(5), 2);
+    }
+
+    private static int halves(int halves) {
+        TaperedNumbers x = new TaperedNumbers();
+        for (int i = 0; i < halves; i++) {
+            x.store(64, 48, false);
+        }
+        return x.count(10);
+    }
+
+    private static void nilStore() {
+        TaperedNumbers x = new TaperedNumbers();
+        x.store(64, 64, false);
+        DUE.yes("NIL comes", x.store(0, 128, true));
+        counts("NIL", x, 8, 1, 0, -2, 0, 0, 0, 2, 0, -1000, 0);
+        DUE.same("bit of NIL", x.bit(0), -2);
+        DUE.same("no bit of NIL", x.bit(101), -1);
+        DUE.same("stored of NIL", x.stored(5, 1), 16);
+        DUE.yes("NIL stays", x.store(64, 64, false));
+        DUE.same("NIL stays", x.count(3), -2);
+        DUE.yes("undo", x.undo());
+        DUE.same("NIL stays", x.count(3), -2);
+        DUE.yes("undo of NIL", x.undo());
+        DUE.same("1 again", x.count(10), 1);
+        x.store(128, 128, false);
+        DUE.yes("NIL is cleared", x.clear());
+        DUE.same("0", x.count(3), 0);
+    }
+
+    private static void greatStore() {
+        TaperedNumbers x = new TaperedNumbers();
+        x.resize(12, 2);
+        for (int i = 0; i < 40; i++) {
+            x.store(2047, 2047, false);
+        }
+        DUE.same("40 times 2 to the 80", x.count(9), 85);
+        DUE.same("bound", x.count(10), 2000000000);
+        x.store(1, 1, false);
+        DUE.same("the lowest bit", x.bit(-80), 1);
+        DUE.same("bit -100", x.bit(-100), 0);
+        DUE.same("bit 100", x.bit(100), 0);
+        DUE.same("bit 85", x.bit(85), 1);
+        DUE.same("bit 83", x.bit(83), 1);
+        for (int i = 0; i < 40; i++) {
+            x.store(2047, 2047, true);
+        }
+        DUE.same("only the lowest is left", x.count(9), -80);
+        DUE.same("its ROW", x.stored(12, 2), 1);
+        x.store(1, 1, true);
+        x.store(1, 1, true);
+        DUE.same("below 0", x.count(3), -1);
+        DUE.same("its ROW", x.stored(12, 2), 4095);
+        x.store(2047, 2049, false);
+        DUE.same("bound below", x.count(10), -2000000000);
+    }
+
+    private static void undoing() {
+        TaperedNumbers x = new TaperedNumbers();
+        for (int i = 0; i < 45; i++) {
+            x.store(64, 64, false);
+        }
+        DUE.same("the last 40", x.count(7), 40);
+        for (int i = 0; i < 40; i++) {
+            DUE.yes("undo", x.undo());
+        }
+        DUE.no("the 41st", x.undo());
+        DUE.same("5 are left", x.count(10), 5);
+        x.clear();
+        x.resize(5, 0);
+        Due.feed(x, "abc");
+        DUE.yes("undo", x.undo());
+        DUE.same("the tape is nothing by hand", x.count(6), 3);
+        x.back(3);
+        DUE.yes("undo", x.undo());
+        DUE.no("no more", x.undo());
+        counts("undone", x, 8, 1, 0, 1, 0, 0, 0, 0, 0, 2, 5);
+    }
+
+    private static void slots() {
+        TaperedNumbers x = new TaperedNumbers();
+        Due.read(x, TEXT);
+        x.store(64, 64, false);
+        Due.feed(x, "size 3");
+        DUE.yes("hold", x.hold(0));
+        DUE.yes("hold", x.hold(2));
+        DUE.same("two are full", x.count(8), 2);
+        DUE.same("hold is nothing by hand", x.count(7), 1);
+        int d = x.let(3, 0);
+        x.resize(6, 2);
+        x.store(16, 16, false);
+        x.back(6);
+        DUE.yes("hold", x.hold(2));
+        DUE.no("nothing in it", x.restore(1));
+        DUE.yes("restore", x.restore(0));
+        counts("restored", x, 8, 1, 4, 1, 4, 4, 6, 0, 2, 0, 1);
+        DUE.same("a NAME is as it was", x.let(3, 0), d);
+        DUE.no("nothing can be undone", x.undo());
+        DUE.yes("it stays there", x.restore(0));
+        DUE.yes("the other", x.restore(2));
+        counts("the other", x, 6, 2, 4, 1, 4, 4, 0, 0, 2, 1, 2);
+        DUE.same("a text with a fault", Due.read(x, "size"), 1);
+        DUE.same("leaves them", x.count(8), 2);
+        x.store(16, 16, false);
+        DUE.same("a text", Due.read(x, "size 5 1;"), 0);
+        counts("a text", x, 5, 1, 0, 0, 0, 0, 0, 0, 0, -1000, 0);
+        DUE.no("nothing in it", x.restore(0));
+        DUE.no("nothing to undo", x.undo());
+    }
+
+    private static void wrongInputs() {
+        TaperedNumbers x = new TaperedNumbers();
+        x.store(72, 64, false);
+        for (int wrong : new int[] {-1, -2147483648, 2147483647, 256}) {
+            DUE.no("store", x.store(wrong, 0, false));
+            DUE.no("store", x.store(0, wrong, true));
+            DUE.no("resize", x.resize(wrong, 1));
+            DUE.no("resize", x.resize(8, wrong));
+            DUE.no("hold", x.hold(wrong));
+            DUE.no("restore", x.restore(wrong));
+            DUE.same("stored", x.stored(wrong, 1), -1);
+            DUE.same("stored", x.stored(8, wrong), -1);
+            DUE.same("bit", x.bit(wrong == -1 ? -101 : wrong), -1);
+            DUE.same("count", x.count(wrong), -1);
+        }
+        DUE.no("hold", x.hold(3));
+        DUE.no("restore", x.restore(3));
+        DUE.no("resize", x.resize(2, 0));
+        DUE.no("resize", x.resize(13, 0));
+        DUE.no("resize", x.resize(8, 3));
+        DUE.same("stored", x.stored(2, 0), -1);
+        DUE.same("stored", x.stored(13, 0), -1);
+        DUE.same("stored", x.stored(3, 3), -1);
+        DUE.same("bit", x.bit(101), -1);
+        counts("nothing happened", x, 8, 1, 0, 1, 0, 0, 0, 1, 0, 0, 2, -1, -1);
+    }
+
+    /** Calls by chance, against lists of plain states. */
+    private static final class Run {
+        private record Plain(int n, int w, Model.Frac sum, int tape) {
+        }
+
+        private final TaperedNumbers x = new TaperedNumbers();
+        private final List<Plain> past = new ArrayList<>();
+        private final Plain[] slots = new Plain[3];
+        private Plain now = new Plain(8, 1, Model.Frac.of(0, 1), 0);
+
+        void go() {
+            for (int i = 0; i < 60; i++) {
+                step(RANDOM.nextInt(14));
+                check();
+            }
+        }
+
+        private void done(Plain next) {
+            past.add(now);
+            if (past.size() > 40) {
+                past.remove(0);
+            }
+            now = next;
+        }
+
+        private void step(int kind) {
+            if (kind < 7) {
+                store(RANDOM.nextInt(1 << now.n), RANDOM.nextInt(1 << now.n), RANDOM.nextBoolean());
+            } else if (kind == 7) {
+                boolean clear = now.sum == null || now.sum.sign() != 0;
+                DUE.same("clear", x.clear(), clear);
+                if (clear) {
+                    done(new Plain(now.n, now.w, Model.Frac.of(0, 1), now.tape));
+                }
+            } else if (kind == 8) {
+                resize(2 + RANDOM.nextInt(12), RANDOM.nextInt(4));
+            } else if (kind <= 10) {
+                DUE.same("undo", x.undo(), !past.isEmpty());
+                if (!past.isEmpty()) {
+                    Plain last = past.remove(past.size() - 1);
+                    now = new Plain(last.n, last.w, last.sum, now.tape);
+                }
+            } else {
+                slot(kind, RANDOM.nextInt(5) - 1);
+            }
+        }
+
+        private void store(int a, int b, boolean away) {
+            DUE.yes("store", x.store(a, b, away));
+            Model.Frac product = Model.exact(now.n, now.w, a, b, 2);
+            Model.Frac sum = now.sum == null || product == null ? null : away ? now.sum.minus(product) : now.sum.plus(product);
+            done(new Plain(now.n, now.w, sum == null ? null : reduced(sum), now.tape));
+        }
+
+        /** What is below the line is a power of 2: the greatest that can be asked for. */
+        private Model.Frac reduced(Model.Frac sum) {
+            BigInteger by = sum.over.gcd(sum.below);
+            return new Model.Frac(sum.over.divide(by), sum.below.divide(by));
+        }
+
+        private void resize(int n, int w) {
+            boolean can = Model.isSize(n, w) && (n != now.n || w != now.w);
+            DUE.same("resize", x.resize(n, w), can);
+            if (can) {
+                done(new Plain(n, w, now.sum, now.tape));
+            }
+        }
+
+        private void slot(int kind, int slot) {
+            boolean is = slot >= 0 && slot < 3;
+            if (kind == 11) {
+                int tape = x.feed(0, 0, 0, 0, 0);
+                DUE.same("feed", tape, now.tape + 20);
+                now = new Plain(now.n, now.w, now.sum, tape);
+            } else if (kind == 12) {
+                DUE.same("hold", x.hold(slot), is);
+                if (is) {
+                    slots[slot] = now;
+                }
+            } else {
+                boolean full = is && slots[slot] != null;
+                DUE.same("restore", x.restore(slot), full);
+                if (full) {
+                    now = slots[slot];
+                    past.clear();
+                }
+            }
+        }
+
+        private void check() {
+            boolean nil = now.sum == null;
+            boolean none = nil || now.sum.sign() == 0;
+            int power = none ? -1000 : now.sum.over.abs().bitLength() - now.sum.below.bitLength();
+            int full = (int) Arrays.stream(slots).filter(s -> s != null).count();
+            counts("run", x, now.n, now.w, 0, nil ? -2 : now.sum.sign(), 0, 0, now.tape, past.size(), full,
+                power, nil ? 0 : (int) now.sum.whole());
+            int i = RANDOM.nextInt(203) - 101;
+            int bit = nil ? -2 : now.sum.bare().times(Model.Frac.powerOf2(-i)).floor().testBit(0) ? 1 : 0;
+            DUE.same("bit(" + i + ")", x.bit(i), Math.abs(i) > 100 ? -1 : bit);
+            int n = 3 + RANDOM.nextInt(10);
+            int w = RANDOM.nextInt(3);
+            DUE.same("stored(" + n + "," + w + ")", x.stored(n, w), Model.rounded(n, w, now.sum));
+        }
+    }
+}
