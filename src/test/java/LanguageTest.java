@@ -43,6 +43,9 @@ public final class LanguageTest {
             (isHidden(method) ? hidden : told).add(isHidden(method) ? method.getName() : signature(method));
         }
         DUE.yes("methods " + told, told.equals(new TreeSet<>(FACE)));
+        for (Class<?> one : type.getDeclaredClasses()) {
+            Arrays.stream(one.getDeclaredMethods()).map(Method::getName).forEach(hidden::add);
+        }
         hidden.retainAll(FACE.stream().map(f -> f.substring(0, f.indexOf('('))).collect(Collectors.toSet()));
         DUE.yes("private ones with a public name " + hidden, hidden.isEmpty());
         for (Field field : type.getDeclaredFields()) {

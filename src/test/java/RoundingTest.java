@@ -107,6 +107,9 @@ public final class RoundingTest {
             DUE.same("fused(" + n + "," + w + "," + a + "," + b + "," + c, X.fused(n, w, a, b, c), Model.fused(n, w, a, b, c));
             int lost = Model.negative(n, X.both(n, w, a, b, 2));
             DUE.same("fused(" + n + "," + w + "," + a + "," + b + "," + lost, X.fused(n, w, a, b, lost), Model.fused(n, w, a, b, lost));
+            for (int tiny : new int[] {1, (1 << n) - 1, 2, (1 << n) - 2}) {
+                DUE.same("fused(" + n + "," + w + "," + a + "," + b + "," + tiny, X.fused(n, w, a, b, tiny), Model.fused(n, w, a, b, tiny));
+            }
             quotient(n, w);
         }
         for (int i = 0; i < 20; i++) {

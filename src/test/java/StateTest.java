@@ -17,6 +17,7 @@ public final class StateTest {
         storing();
         nilStore();
         greatStore();
+        behindTheHalf();
         undoing();
         slots();
         wrongInputs();
@@ -146,8 +147,40 @@ public final class StateTest {
         x.store(1, 1, true);
         DUE.same("below 0", x.count(3), -1);
         DUE.same("its ROW", x.stored(12, 2), 4095);
+        DUE.same("its lowest bit", x.bit(-80), 1);
+        DUE.yes("undo", x.undo());
+        DUE.same("0 again", x.count(3), 0);
+        DUE.same("without the lowest bit", x.bit(-80), 0);
+        x.store(1, 1, true);
         x.store(2047, 2049, false);
         DUE.same("bound below", x.count(10), -2000000000);
+    }
+
+    /** Halfway between two ROWS the least there is decides, far behind. */
+    private static void behindTheHalf() {
+        TaperedNumbers x = new TaperedNumbers();
+        x.resize(12, 2);
+        int by16 = x.quotient(12, 2, 1, 16);
+        x.store(1024, 1024, false);
+        x.store(by16, by16, false);
+        DUE.same("1 and a half step: the even one", x.stored(12, 2), 1024);
+        x.store(1, 1, false);
+        DUE.same("and the least", x.stored(12, 2), 1025);
+        x.store(1, 1, true);
+        x.store(1, 1, true);
+        DUE.same("less the least", x.stored(12, 2), 1024);
+        x.clear();
+        int half = x.quotient(12, 2, 1, 2);
+        x.store(half, 1024, false);
+        DUE.same("WHOLE of a half", x.count(10), 0);
+        x.store(1, 1, false);
+        DUE.same("WHOLE of a half and the least", x.count(10), 1);
+        DUE.same("its highest bit", x.count(9), -1);
+        int great = x.quotient(12, 2, 131072, 1);
+        x.store(great, x.quotient(12, 2, 8192, 1), false);
+        DUE.same("WHOLE of 2 to the 30 and a half and the least", x.count(10), (1 << 30) + 1);
+        x.store(great, x.quotient(12, 2, 8192, 1), false);
+        DUE.same("bound", x.count(10), 2000000000);
     }
 
     private static void undoing() {
@@ -187,11 +220,19 @@ public final class StateTest {
         x.back(6);
         DUE.yes("hold", x.hold(2));
         DUE.no("nothing in it", x.restore(1));
+        Due.feed(x, "let");
         DUE.yes("restore", x.restore(0));
         counts("restored", x, 8, 1, 4, 1, 4, 4, 6, 0, 2, 0, 1);
         DUE.same("a NAME is as it was", x.let(3, 0), d);
         DUE.no("nothing can be undone", x.undo());
         DUE.yes("it stays there", x.restore(0));
+        Due.feed(x, " 0");
+        DUE.same("the tape is as it was", x.read(), 1);
+        DUE.same("up to its end", x.place(), 8);
+        DUE.yes("restore", x.restore(0));
+        DUE.same("place() is the latest read()'s", x.place(), 8);
+        Due.feed(x, "  0");
+        DUE.same("the tape is as it was", x.count(6), 9);
         DUE.yes("the other", x.restore(2));
         counts("the other", x, 6, 2, 4, 1, 4, 4, 0, 0, 2, 1, 2);
         DUE.same("a text with a fault", Due.read(x, "size"), 1);

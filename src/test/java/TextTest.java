@@ -11,6 +11,8 @@ public final class TextTest {
     private static final Random RANDOM = new Random(20261119);
     private static final String[] WORDS = {"size", "let", "root", "sum", "a", "b", "zz", "abcdefgh", "abcdefghi", "0", "1", "3",
         "12", "9999", "12345", ";", "+", "-", "*", "/", "(", ")", ",", ".", "A", "!"};
+    /** One object reads many texts: nothing of one may be left for the next. */
+    private static TaperedNumbers reader = new TaperedNumbers();
     private static final String[] BLANKS = {" ", "\t", "\n", "\r", "  "};
 
     public static void main(String[] args) {
@@ -19,11 +21,15 @@ public final class TextTest {
         room();
         namesAndSizes();
         names();
-        for (int i = 0; i < 6000; i++) {
-            brokenText();
-        }
-        for (int i = 0; i < 3000; i++) {
-            goodText();
+        manyByOne();
+        for (int i = 0; i < 9000; i++) {
+            // An object is used for 512 calls at most.
+            reader = i % 4 == 0 ? new TaperedNumbers() : reader;
+            if (i % 3 == 0) {
+                goodText();
+            } else {
+                brokenText();
+            }
         }
         DUE.end();
     }
@@ -160,6 +166,23 @@ public final class TextTest {
         fault(many + "+", 1, end + 1);
         fault(many + "+.", 1, end + 1);
         fault(many + "!", 1, end);
+    }
+
+    private static void manyByOne() {
+        TaperedNumbers x = new TaperedNumbers();
+        String opened = "size 8 1;let x " + times("(", 8);
+        fault(x, opened, 1, opened.length());
+        fault(x, opened + "1" + times(")", 8) + ";", 0, -1);
+        DUE.same("1", x.let(0, 0), 64);
+        for (int i = 0; i < 4; i++) {
+            fault(x, "size 8 1;let x 2" + times("*1", 100) + ";let y x;", 0, -1);
+            DUE.same("2", x.let(1, 0), 80);
+            fault(x, "size 8 1;let x 1;let x y;", 3, 21);
+            fault(x, "size 8 1;let x 1;let y", 1, 22);
+        }
+        fault(x, "size 8 1;", 0, -1);
+        DUE.same("no NAMES", x.count(2), 0);
+        DUE.same("no ROW", x.let(0, 0), -100000);
     }
 
     private static void namesAndSizes() {
@@ -380,7 +403,7 @@ public final class TextTest {
         }
         int[] due = formFault(text.toString());
         due = due == null ? nameFault(text.toString()) : due;
-        fault(text.toString(), due[0], due[1]);
+        fault(reader, text.toString(), due[0], due[1]);
     }
 
     private static String blank() {
@@ -443,7 +466,7 @@ public final class TextTest {
         if (text.length() > 1980 || formFault(text) != null) {
             return;
         }
-        TaperedNumbers x = new TaperedNumbers();
+        TaperedNumbers x = reader;
         fault(x, text, 0, -1);
         same(x, text, x.count(0), x.count(1));
         int n = 3 + RANDOM.nextInt(10);
