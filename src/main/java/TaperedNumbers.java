@@ -118,7 +118,7 @@ public final class TaperedNumbers {
         tape.length = 0;
         if (fault == 0) {
             begin();
-            workOutNames();
+            worker.workOut(text, now.size, now.wide, names);
         }
         return fault;
     }
@@ -141,10 +141,6 @@ public final class TaperedNumbers {
         return faultPlace;
     }
 
-    private void workOutNames() {
-        worker.workOut(text, now.size, now.wide, names);
-    }
-
     // ---- what is done by hand
 
     public boolean resize(int n, int w) {
@@ -154,7 +150,7 @@ public final class TaperedNumbers {
         remember();
         now.size = n;
         now.wide = w;
-        workOutNames();
+        worker.workOut(text, now.size, now.wide, names);
         return true;
     }
 
@@ -202,7 +198,7 @@ public final class TaperedNumbers {
         boolean resized = state.size != now.size || state.wide != now.wide;
         now.take(state);
         if (resized) {
-            workOutNames();
+            worker.workOut(text, now.size, now.wide, names);
         }
     }
 
@@ -899,9 +895,8 @@ public final class TaperedNumbers {
         private int roundedBare(int n, int w) {
             int top = (n - 2) << w;
             int scale = out.scale();
-            if (scale >= top) {
-                boolean same = scale == top && (out.mant & (out.mant - 1)) == 0;
-                lean = same ? 0 : -1;
+            if (scale > top) {
+                lean = -1;
                 return Row.greatest(n);
             }
             if (scale < -top) {
@@ -1168,8 +1163,8 @@ public final class TaperedNumbers {
         final int[] values = new int[TOKEN_ROOM];
         int length;
         int names;
-        int size = 8;
-        int wide = 1;
+        int size;
+        int wide;
 
         void append(int order, int value) {
             if (length < orders.length && length < values.length) {
@@ -1292,6 +1287,25 @@ public final class TaperedNumbers {
 
         /** The number of the fault, 0 without. */
         int check() {
+            begin();
+            taken(WORD_SIZE);
+            text.size = takeNumber(3, 12);
+            text.wide = takeNumber(0, 2);
+            taken(';');
+            for (int i = 0; i <= NAME_ROOM && kind == WORD_LET; i++) {
+                parseLine();
+            }
+            if (kind != END) {
+                stop(SYNTAX);
+            }
+            if (fault == 0 && laterFault != 0) {
+                fault = laterFault;
+                faultAt = laterAt;
+            }
+            return fault;
+        }
+
+        private void begin() {
             text.length = 0;
             text.names = 0;
             pos = 0;
@@ -1303,12 +1317,6 @@ public final class TaperedNumbers {
             laterFault = 0;
             laterAt = NONE;
             scan();
-            parseText();
-            if (fault == 0 && laterFault != 0) {
-                fault = laterFault;
-                faultAt = laterAt;
-            }
-            return fault;
         }
 
         // ---- tokens
@@ -1419,19 +1427,6 @@ public final class TaperedNumbers {
         }
 
         // ---- the text
-
-        private void parseText() {
-            taken(WORD_SIZE);
-            text.size = takeNumber(3, 12);
-            text.wide = takeNumber(0, 2);
-            taken(';');
-            for (int i = 0; i <= NAME_ROOM && kind == WORD_LET; i++) {
-                parseLine();
-            }
-            if (kind != END) {
-                stop(SYNTAX);
-            }
-        }
 
         private int takeNumber(int least, int most) {
             long number = value;

@@ -3,13 +3,30 @@ final class Due {
     private static final int SHOWN = 30;
     private int calls = 0;
     private int wrong = 0;
+    private String sentence = "";
+    private int callsAhead = 0;
+
+    /** The document's sentence that the answers behind are due by: it is told with each wrong one. */
+    void sentence(String words) {
+        endSentence();
+        sentence = words;
+        callsAhead = calls;
+    }
+
+    /** A sentence that no answer is due by would be a test that can't fail. */
+    private void endSentence() {
+        if (!sentence.isEmpty() && calls == callsAhead) {
+            wrong++;
+            System.out.println("no answer was asked for: " + sentence);
+        }
+    }
 
     void same(String call, long got, long want) {
         calls++;
         if (got != want) {
             wrong++;
             if (wrong <= SHOWN) {
-                System.out.println(call + " answered " + got + ", due is " + want);
+                System.out.println(call + " answered " + got + ", due is " + want + (sentence.isEmpty() ? "" : ": " + sentence));
             }
         }
     }
@@ -27,6 +44,7 @@ final class Due {
     }
 
     void end() {
+        endSentence();
         System.out.println(calls + " answers, " + wrong + " not as due");
         if (wrong != 0) {
             System.exit(1);

@@ -1,14 +1,6 @@
-import java.math.BigInteger;
-import java.util.ArrayList;
-import java.util.Arrays;
-import java.util.List;
-import java.util.Random;
-
 /** Promises 1, 6 to 9, 21, 24, 27 to 29: what an object is, and what is done to it by hand. */
 public final class StateTest {
     private static final Due DUE = new Due();
-    /** A fixed seed: each run asks the same. */
-    private static final Random RANDOM = new Random(20261120);
     private static final String TEXT = "size 8 1;let a 3;let b a/7;let c a-b/0;let d 100*b;";
 
     public static void main(String[] args) {
@@ -21,9 +13,6 @@ public final class StateTest {
         undoing();
         slots();
         wrongInputs();
-        for (int i = 0; i < 300; i++) {
-            new Run().go();
-        }
         DUE.end();
     }
 
@@ -269,110 +258,5 @@ public final class StateTest {
         DUE.same("stored", x.stored(3, 3), -1);
         DUE.same("bit", x.bit(101), -1);
         counts("nothing happened", x, 8, 1, 0, 1, 0, 0, 0, 1, 0, 0, 2, -1, -1);
-    }
-
-    /** Calls by chance, against lists of plain states. */
-    private static final class Run {
-        private record Plain(int n, int w, Model.Frac sum, int tape) {
-        }
-
-        private final TaperedNumbers x = new TaperedNumbers();
-        private final List<Plain> past = new ArrayList<>();
-        private final Plain[] slots = new Plain[3];
-        private Plain now = new Plain(8, 1, Model.Frac.of(0, 1), 0);
-
-        void go() {
-            for (int i = 0; i < 60; i++) {
-                step(RANDOM.nextInt(14));
-                check();
-            }
-        }
-
-        private void done(Plain next) {
-            past.add(now);
-            if (past.size() > 40) {
-                past.remove(0);
-            }
-            now = next;
-        }
-
-        private void step(int kind) {
-            if (kind < 7) {
-                store(RANDOM.nextInt(1 << now.n), RANDOM.nextInt(1 << now.n), RANDOM.nextBoolean());
-            } else if (kind == 7) {
-                boolean clear = now.sum == null || now.sum.sign() != 0;
-                DUE.same("clear", x.clear(), clear);
-                if (clear) {
-                    done(new Plain(now.n, now.w, Model.Frac.of(0, 1), now.tape));
-                }
-            } else if (kind == 8) {
-                resize(2 + RANDOM.nextInt(12), RANDOM.nextInt(4));
-            } else if (kind <= 10) {
-                DUE.same("undo", x.undo(), !past.isEmpty());
-                if (!past.isEmpty()) {
-                    Plain last = past.remove(past.size() - 1);
-                    now = new Plain(last.n, last.w, last.sum, now.tape);
-                }
-            } else {
-                slot(kind, RANDOM.nextInt(5) - 1);
-            }
-        }
-
-        private void store(int a, int b, boolean away) {
-            DUE.yes("store", x.store(a, b, away));
-            Model.Frac product = Model.exact(now.n, now.w, a, b, 2);
-            Model.Frac sum = now.sum == null || product == null ? null : away ? now.sum.minus(product) : now.sum.plus(product);
-            done(new Plain(now.n, now.w, sum == null ? null : reduced(sum), now.tape));
-        }
-
-        /** What is below the line is a power of 2: the greatest that can be asked for. */
-        private Model.Frac reduced(Model.Frac sum) {
-            BigInteger by = sum.over.gcd(sum.below);
-            return new Model.Frac(sum.over.divide(by), sum.below.divide(by));
-        }
-
-        private void resize(int n, int w) {
-            boolean can = Model.isSize(n, w) && (n != now.n || w != now.w);
-            DUE.same("resize", x.resize(n, w), can);
-            if (can) {
-                done(new Plain(n, w, now.sum, now.tape));
-            }
-        }
-
-        private void slot(int kind, int slot) {
-            boolean is = slot >= 0 && slot < 3;
-            if (kind == 11) {
-                int tape = x.feed(0, 0, 0, 0, 0);
-                DUE.same("feed", tape, now.tape + 20);
-                now = new Plain(now.n, now.w, now.sum, tape);
-            } else if (kind == 12) {
-                DUE.same("hold", x.hold(slot), is);
-                if (is) {
-                    slots[slot] = now;
-                }
-            } else {
-                boolean full = is && slots[slot] != null;
-                DUE.same("restore", x.restore(slot), full);
-                if (full) {
-                    now = slots[slot];
-                    past.clear();
-                }
-            }
-        }
-
-        private void check() {
-            boolean nil = now.sum == null;
-            boolean none = nil || now.sum.sign() == 0;
-            int power = none ? -1000 : now.sum.over.abs().bitLength() - now.sum.below.bitLength();
-            int full = (int) Arrays.stream(slots).filter(s -> s != null).count();
-            counts("run", x, now.n, now.w, 0, nil ? -2 : now.sum.sign(), 0, 0, now.tape, past.size(), full,
-                power, nil ? 0 : (int) now.sum.whole());
-            int i = RANDOM.nextInt(203) - 101;
-            int bit = nil ? -2 : now.sum.bare().times(Model.Frac.powerOf2(-i)).floor().testBit(0) ? 1 : 0;
-            DUE.same("bit(" + i + ")", x.bit(i), Math.abs(i) > 100 ? -1 : bit);
-            int n = 3 + RANDOM.nextInt(10);
-            int w = RANDOM.nextInt(3);
-            DUE.same("stored(" + n + "," + w + ")", x.stored(n, w), Model.rounded(n, w, now.sum));
-        }
     }
 }
