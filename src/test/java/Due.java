@@ -77,6 +77,12 @@ final class Due {
         return x.read();
     }
 
+    /** Reads a text whose fault, or none by 0 and -1, is due. */
+    void fault(TaperedNumbers x, String text, int number, int place) {
+        same("read of " + text, read(x, text), number);
+        same("place of " + text, x.place(), place);
+    }
+
     /** What written() tells, byte by byte. */
     static String written(TaperedNumbers x, int n, int w, int a) {
         StringBuilder all = new StringBuilder();

@@ -66,12 +66,7 @@ public final class TextTest {
     // ---- faults
 
     private static void fault(String text, int number, int place) {
-        fault(new TaperedNumbers(), text, number, place);
-    }
-
-    private static void fault(TaperedNumbers x, String text, int number, int place) {
-        DUE.same("read of " + text, Due.read(x, text), number);
-        DUE.same("place of " + text, x.place(), place);
+        DUE.fault(new TaperedNumbers(), text, number, place);
     }
 
     private static void syntax() {
@@ -167,16 +162,16 @@ public final class TextTest {
     private static void manyByOne() {
         TaperedNumbers x = new TaperedNumbers();
         String opened = "size 8 1;let x " + times("(", 8);
-        fault(x, opened, 1, opened.length());
-        fault(x, opened + "1" + times(")", 8) + ";", 0, -1);
+        DUE.fault(x, opened, 1, opened.length());
+        DUE.fault(x, opened + "1" + times(")", 8) + ";", 0, -1);
         DUE.same("1", x.let(0, 0), 64);
         for (int i = 0; i < 4; i++) {
-            fault(x, "size 8 1;let x 2" + times("*1", 100) + ";let y x;", 0, -1);
+            DUE.fault(x, "size 8 1;let x 2" + times("*1", 100) + ";let y x;", 0, -1);
             DUE.same("2", x.let(1, 0), 80);
-            fault(x, "size 8 1;let x 1;let x y;", 3, 21);
-            fault(x, "size 8 1;let x 1;let y", 1, 22);
+            DUE.fault(x, "size 8 1;let x 1;let x y;", 3, 21);
+            DUE.fault(x, "size 8 1;let x 1;let y", 1, 22);
         }
-        fault(x, "size 8 1;", 0, -1);
+        DUE.fault(x, "size 8 1;", 0, -1);
         DUE.same("no NAMES", x.count(2), 0);
         DUE.same("no ROW", x.let(0, 0), -100000);
     }
@@ -201,7 +196,7 @@ public final class TextTest {
 
     private static void names() {
         TaperedNumbers x = new TaperedNumbers();
-        fault(x, "size 4 0;let one 1;let two one+one;let half one/two;let nil one/0;let less -two-two;"
+        DUE.fault(x, "size 4 0;let one 1;let two one+one;let half one/two;let nil one/0;let less -two-two;"
             + "let fine sum(two,two,one,-one);let nought two-two;let big 9999;", 0, -1);
         int[] rows = {4, 6, 2, 8, 9, 6, 0, 7};
         int[] wholes = {1, 2, 0, -2, -4, 2, 0, 4};
@@ -223,7 +218,7 @@ public final class TextTest {
         DUE.same("count(4)", x.count(4), 8);
         DUE.same("count(5)", x.count(5), 7);
         faultChangesNothing(x);
-        fault(x, "size 5 2;let a 0*(1/0);let b sum(0,a);let c root(-1);let d root(0);", 0, -1);
+        DUE.fault(x, "size 5 2;let a 0*(1/0);let b sum(0,a);let c root(-1);let d root(0);", 0, -1);
         DUE.same("0 times NIL", x.let(0, 0), 16);
         DUE.same("sum with NIL", x.let(1, 0), 16);
         DUE.same("root below 0", x.let(2, 0), 16);
@@ -252,7 +247,7 @@ public final class TextTest {
     /** A product added step by step is lost, in a sum it isn't. */
     private static void withoutLoss() {
         TaperedNumbers x = new TaperedNumbers();
-        fault(x, "size 8 0;let b 64;let s 1/64;let lost b*b+s*s-b*b;let kept sum(b,b,s,s,-b,b);let deep sum(sum(1,2,3,4),sum(5,6),1,1);", 0, -1);
+        DUE.fault(x, "size 8 0;let b 64;let s 1/64;let lost b*b+s*s-b*b;let kept sum(b,b,s,s,-b,b);let deep sum(sum(1,2,3,4),sum(5,6),1,1);", 0, -1);
         DUE.same("lost", x.let(2, 0), 0);
         DUE.same("kept", x.let(3, 0), 1);
         DUE.same("deep", x.let(4, 0), new TaperedNumbers().quotient(8, 0, 14 * 30 + 1, 1));
@@ -275,7 +270,7 @@ public final class TextTest {
             return;
         }
         int[] due = TextModel.fault(text.toString());
-        fault(reader, text.toString(), due[0], due[1]);
+        DUE.fault(reader, text.toString(), due[0], due[1]);
     }
 
     private static String blank() {
@@ -339,7 +334,7 @@ public final class TextTest {
             return;
         }
         TaperedNumbers x = reader;
-        fault(x, text, 0, -1);
+        DUE.fault(x, text, 0, -1);
         same(x, text, x.count(0), x.count(1));
         int n = 3 + RANDOM.nextInt(10);
         int w = RANDOM.nextInt(3);
