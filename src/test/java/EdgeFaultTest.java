@@ -1,15 +1,5 @@
 /** The edges of FAULTS: each sentence about them in part I that names one. */
-public final class EdgeFaultTest {
-    private static final Due DUE = new Due();
-    private static final int SYNTAX = 1;
-    private static final int ROOM = 2;
-    private static final int TWICE = 3;
-    private static final int NAME = 4;
-    private static final int WRONG = 5;
-    private static final int NO_SUCH = -100000;
-    private static final String HEAD = "size 8 1;";
-    private static final String LINE = HEAD + "let x ";
-
+public final class EdgeFaultTest extends EdgeTexts {
     public static void main(String[] args) {
         firstByPlace();
         leastOfOnePlace();
@@ -20,14 +10,6 @@ public final class EdgeFaultTest {
         faultChangesNothing();
         inPlaceOfTheOneAhead();
         DUE.end();
-    }
-
-    private static void fault(String text, int number, int place) {
-        DUE.fault(new TaperedNumbers(), text, number, place);
-    }
-
-    private static void good(String text) {
-        fault(text, 0, -1);
     }
 
     private static void firstByPlace() {

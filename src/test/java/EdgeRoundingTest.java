@@ -1,21 +1,5 @@
 /** The edges of what is rounded: each sentence of part II and of promises 11 to 15, 18, 20, 22, 25 that names one. */
-public final class EdgeRoundingTest {
-    private static final Due DUE = new Due();
-    private static final TaperedNumbers X = new TaperedNumbers();
-
-    private interface Sizes {
-        void of(int n, int w);
-    }
-
-    private static void everySize(String sentence, Sizes sizes) {
-        DUE.sentence(sentence);
-        for (int n = 3; n <= 12; n++) {
-            for (int w = 0; w <= 2; w++) {
-                sizes.of(n, w);
-            }
-        }
-    }
-
+public final class EdgeRoundingTest extends EdgeSizes {
     public static void main(String[] args) {
         everySize("ROUNDED: v is the value of a ROW: that one", EdgeRoundingTest::ownRows);
         everySize("ROUNDED: let m be the value of the ROW twice p and 1: v less than m: p, more: p and 1; as much: that of both that is even",
@@ -36,18 +20,6 @@ public final class EdgeRoundingTest {
         smallPairs();
         byHand();
         DUE.end();
-    }
-
-    private static int nil(int n) {
-        return 1 << (n - 1);
-    }
-
-    private static int negative(int n, int a) {
-        return -a & ((1 << n) - 1);
-    }
-
-    private static String at(int n, int w, int a) {
-        return "(" + n + "," + w + "," + a + ")";
     }
 
     // ---- ROUNDED

@@ -2,24 +2,9 @@ import java.math.BigDecimal;
 import java.util.Arrays;
 
 /** The edges of rows: each sentence of part II and of promises 10, 16, 17, 19, 23 that names one. */
-public final class EdgeRowTest {
-    private static final Due DUE = new Due();
-    private static final TaperedNumbers X = new TaperedNumbers();
+public final class EdgeRowTest extends EdgeSizes {
     private static final int NO_SUCH = -100000;
     private static final long NO_LINE = -1000000000000000L;
-
-    private interface Sizes {
-        void of(int n, int w);
-    }
-
-    private static void everySize(String sentence, Sizes sizes) {
-        DUE.sentence(sentence);
-        for (int n = 3; n <= 12; n++) {
-            for (int w = 0; w <= 2; w++) {
-                sizes.of(n, w);
-            }
-        }
-    }
 
     public static void main(String[] args) {
         everySize("A ROW of SIZE n: 0 .. 2 to the n less 1", EdgeRowTest::rowsOfASize);
@@ -38,14 +23,6 @@ public final class EdgeRowTest {
         written();
         nearOfSeveral();
         DUE.end();
-    }
-
-    private static String at(int n, int w, int a) {
-        return "(" + n + "," + w + "," + a + ")";
-    }
-
-    private static int nil(int n) {
-        return 1 << (n - 1);
     }
 
     private static void rowsOfASize(int n, int w) {

@@ -1,13 +1,5 @@
 /** The edges of the tape and of TOKENS: each sentence of promises 2 to 5 and of the head of part I that names one. */
-public final class EdgeTapeTest {
-    private static final Due DUE = new Due();
-    private static final int SYNTAX = 1;
-    private static final int ROOM = 2;
-    private static final int NAME = 4;
-    private static final int WRONG = 5;
-    private static final String HEAD = "size 8 1;";
-    private static final String LINE = HEAD + "let x ";
-
+public final class EdgeTapeTest extends EdgeTexts {
     public static void main(String[] args) {
         tapeFills();
         tapeShrinks();
@@ -21,21 +13,6 @@ public final class EdgeTapeTest {
         words();
         longestTokens();
         DUE.end();
-    }
-
-    private static void fault(String text, int number, int place) {
-        DUE.fault(new TaperedNumbers(), text, number, place);
-    }
-
-    private static void good(String text) {
-        fault(text, 0, -1);
-    }
-
-    /** The ROW of the last NAME of a text that has no FAULT. */
-    private static int last(String text) {
-        TaperedNumbers x = new TaperedNumbers();
-        DUE.fault(x, text, 0, -1);
-        return x.let(x.count(2) - 1, 0);
     }
 
     private static TaperedNumbers fed(String text) {

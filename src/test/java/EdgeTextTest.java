@@ -2,16 +2,7 @@ import java.util.ArrayList;
 import java.util.List;
 
 /** The edges of a text without FAULT and its form: each sentence of the frame of part I and of promise 26 that names one. */
-public final class EdgeTextTest {
-    private static final Due DUE = new Due();
-    private static final int SYNTAX = 1;
-    private static final int ROOM = 2;
-    private static final int NAME = 4;
-    private static final int WRONG = 5;
-    private static final int NO_SUCH = -100000;
-    private static final String HEAD = "size 8 1;";
-    private static final String LINE = HEAD + "let x ";
-
+public final class EdgeTextTest extends EdgeTexts {
     public static void main(String[] args) {
         everyShortText();
         minusAhead();
@@ -23,21 +14,6 @@ public final class EdgeTextTest {
         order();
         sums();
         DUE.end();
-    }
-
-    private static void fault(String text, int number, int place) {
-        DUE.fault(new TaperedNumbers(), text, number, place);
-    }
-
-    private static void good(String text) {
-        fault(text, 0, -1);
-    }
-
-    /** The ROW of the last NAME of a text that has no FAULT. */
-    private static int last(String text) {
-        TaperedNumbers x = new TaperedNumbers();
-        DUE.fault(x, text, 0, -1);
-        return x.let(x.count(2) - 1, 0);
     }
 
     /** Each row of few tokens behind each of some heads, against the form told with a stack. */
